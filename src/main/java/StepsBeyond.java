@@ -626,7 +626,8 @@ public final class StepsBeyond {
     }
 
     private int whyNot(int i, int p, int taking, int most) {
-        if (isOut(i)) {
+        measure(area, people.bounds[i]);
+        if (!area.holds(people.places[i])) {
             return apart(people.places[i], p) <= 2 ? 0 : 1;
         }
         if (!area.holds(p)) {
@@ -896,7 +897,8 @@ public final class StepsBeyond {
                 return;
             }
             int value = stack[top - 1];
-            stack[top - 1] = sign == NEGATE ? -value : truth(value == 0);
+            int truth = value == 0 ? 1 : 0;
+            stack[top - 1] = sign == NEGATE ? -value : truth;
         }
 
         private void joinTwo(int sign) {
@@ -904,30 +906,31 @@ public final class StepsBeyond {
                 return;
             }
             top--;
-            stack[top - 1] = joinedBy(sign, stack[top - 1], stack[top]);
-        }
-
-        private static int joinedBy(int sign, int left, int right) {
+            int left = stack[top - 1];
+            int right = stack[top];
             switch (sign) {
                 case OR:
-                    return truth(left != 0 || right != 0);
+                    stack[top - 1] = left != 0 || right != 0 ? 1 : 0;
+                    break;
                 case AND:
-                    return truth(left != 0 && right != 0);
+                    stack[top - 1] = left != 0 && right != 0 ? 1 : 0;
+                    break;
                 case LESS:
-                    return truth(left < right);
+                    stack[top - 1] = left < right ? 1 : 0;
+                    break;
                 case EQUAL:
-                    return truth(left == right);
+                    stack[top - 1] = left == right ? 1 : 0;
+                    break;
                 case PLUS:
-                    return left + right;
+                    stack[top - 1] = left + right;
+                    break;
                 case MINUS:
-                    return left - right;
+                    stack[top - 1] = left - right;
+                    break;
                 default:
-                    return left * right;
+                    stack[top - 1] = left * right;
+                    break;
             }
-        }
-
-        private static int truth(boolean is) {
-            return is ? 1 : 0;
         }
     }
 
@@ -961,15 +964,11 @@ public final class StepsBeyond {
             farStart = 0;
             behind = 0;
             next();
-            if (!readPart(NEAR)) {
+            if (!pass(NEAR) || !readOr(0) || !pass(SEMICOLON)) {
                 return false;
             }
             farStart = written;
-            return readPart(FAR) && token == END;
-        }
-
-        private boolean readPart(int key) {
-            return pass(key) && readOr(0) && pass(SEMICOLON);
+            return pass(FAR) && readOr(0) && pass(SEMICOLON) && token == END;
         }
 
         private boolean readOr(int open) {
@@ -1122,10 +1121,18 @@ public final class StepsBeyond {
             while (behind < length && isLetter(tape[behind])) {
                 behind++;
             }
-            token = keyHere();
-            if (token == WRONG) {
-                token = nameHere();
-            }
+            token = isHere("near") ? NEAR
+                : isHere("far") ? FAR
+                : isHere("or") ? OR
+                : isHere("and") ? AND
+                : isHere("not") ? NOT
+                : isHere("apart") ? APART
+                : isHere("side") ? SIDE
+                : isHere("huts") ? HUTS
+                : isHere("houses") ? HOUSES
+                : isHere("loaf") ? BY_LOAF
+                : isHere("ravines") ? RAVINES
+                : WRONG;
         }
 
         private void takeNumber() {
@@ -1135,25 +1142,6 @@ public final class StepsBeyond {
                 behind++;
             }
             token = behind - at <= MOST_DIGITS ? NUMBER : WRONG;
-        }
-
-        private int keyHere() {
-            return isHere("near") ? NEAR
-                : isHere("far") ? FAR
-                : isHere("or") ? OR
-                : isHere("and") ? AND
-                : isHere("not") ? NOT
-                : WRONG;
-        }
-
-        private int nameHere() {
-            return isHere("apart") ? APART
-                : isHere("side") ? SIDE
-                : isHere("huts") ? HUTS
-                : isHere("houses") ? HOUSES
-                : isHere("loaf") ? BY_LOAF
-                : isHere("ravines") ? RAVINES
-                : WRONG;
         }
 
         private boolean isHere(String word) {
