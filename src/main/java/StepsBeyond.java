@@ -29,7 +29,7 @@ public final class StepsBeyond {
     private static final int OR = 8, AND = 9, LESS = 10, EQUAL = 11, PLUS = 12, MINUS = 13, TIMES = 14;
     private static final int NOT = 15, NEGATE = 16;
     private static final int APART = 17, SIDE = 18, HUTS = 19, HOUSES = 20, BY_LOAF = 21, RAVINES = 22;
-    private static final int NAMES = 6;
+    private static final int FIRST_NAME = APART, NAMES = 6;
     /** One value waits for each of or, and, <, +, * at each of six depths, and one is at hand. */
     private static final int DEEPEST = 5 * (MOST_OPEN + 1) + 1;
 
@@ -669,10 +669,12 @@ public final class StepsBeyond {
 
     /** HOUSES and how they are joined. */
     private static final class Village {
+        private static final int NOT_LOOKED = 0, IS_NEAR = 1, IS_NOT_NEAR = 2;
         final int[] places = new int[MOST_HOUSES];
         final int[] huts = new int[MOST_HOUSES];
         /** Bit b of joined[a]: a and b are NEAR. Made anew with every change, so that it always tells of now. */
         final int[] joined = new int[MOST_HOUSES];
+        final int[] looked = new int[2 * PLACES];
         final Reckoner reckoner = new Reckoner();
         int[] nearCode = new int[0];
         int[] farCode = new int[0];
@@ -715,22 +717,14 @@ public final class StepsBeyond {
         private boolean areNear(int p, int isHut, int h) {
             int across = p % WIDTH - places[h] % WIDTH;
             int down = p / WIDTH - places[h] / WIDTH;
-            reckoner.tell(APART, across * across + down * down);
-            reckoner.tell(SIDE, Math.abs(across) + Math.abs(down));
-            reckoner.tell(HUTS, isHut + huts[h]);
-            reckoner.tell(HOUSES, number);
-            reckoner.tell(BY_LOAF, 0);
-            reckoner.tell(RAVINES, ravines);
+            reckoner.tellPair(across * across + down * down, Math.abs(across) + Math.abs(down), isHut + huts[h]);
+            reckoner.tellAll(number, 0, ravines);
             return reckoner.worth(nearCode) != 0;
         }
 
         int farWith(int byLoaf) {
-            reckoner.tell(APART, 0);
-            reckoner.tell(SIDE, 0);
-            reckoner.tell(HUTS, 0);
-            reckoner.tell(HOUSES, number);
-            reckoner.tell(BY_LOAF, byLoaf);
-            reckoner.tell(RAVINES, ravines);
+            reckoner.tellPair(0, 0, 0);
+            reckoner.tellAll(number, byLoaf, ravines);
             return Math.max(0, Math.min(MOST_FAR, reckoner.worth(farCode)));
         }
 
@@ -782,6 +776,7 @@ public final class StepsBeyond {
         }
 
         int shedFor(int one, int another) {
+            Arrays.fill(looked, NOT_LOOKED);
             for (int p = 0; p < PLACES; p++) {
                 if (hutJoins(p, one) && hutJoins(p, another)) {
                     return p;
@@ -792,11 +787,22 @@ public final class StepsBeyond {
 
         private boolean hutJoins(int p, int bits) {
             for (int h = 0; h < number; h++) {
-                if (has(bits, h) && areNear(p, 1, h)) {
+                if (has(bits, h) && hutIsNear(p, h)) {
                     return true;
                 }
             }
             return false;
+        }
+
+        /** NEAR depends on nothing but how far off a HOUSE is each way and whether it is a HUT: looked at once. */
+        private boolean hutIsNear(int p, int h) {
+            int across = Math.abs(p % WIDTH - places[h] % WIDTH);
+            int down = Math.abs(p / WIDTH - places[h] / WIDTH);
+            int i = huts[h] * PLACES + down * WIDTH + across;
+            if (looked[i] == NOT_LOOKED) {
+                looked[i] = areNear(p, 1, h) ? IS_NEAR : IS_NOT_NEAR;
+            }
+            return looked[i] == IS_NEAR;
         }
 
         int roundsTo(int a, int b, int most) {
@@ -861,11 +867,16 @@ public final class StepsBeyond {
         final int[] stack = new int[DEEPEST];
         int top;
 
-        void tell(int name, int fact) {
-            int i = name - APART;
-            if (i >= 0 && i < NAMES) {
-                facts[i] = fact;
-            }
+        void tellPair(int apart, int side, int huts) {
+            facts[APART - FIRST_NAME] = apart;
+            facts[SIDE - FIRST_NAME] = side;
+            facts[HUTS - FIRST_NAME] = huts;
+        }
+
+        void tellAll(int houses, int byLoaf, int ravines) {
+            facts[HOUSES - FIRST_NAME] = houses;
+            facts[BY_LOAF - FIRST_NAME] = byLoaf;
+            facts[RAVINES - FIRST_NAME] = ravines;
         }
 
         int worth(int[] code) {
@@ -874,8 +885,8 @@ public final class StepsBeyond {
                 int sign = -code[i];
                 if (sign <= 0) {
                     push(code[i]);
-                } else if (sign >= APART) {
-                    push(sign < APART + NAMES ? facts[sign - APART] : 0);
+                } else if (sign >= FIRST_NAME) {
+                    push(sign < FIRST_NAME + NAMES ? facts[sign - FIRST_NAME] : 0);
                 } else if (sign == NOT || sign == NEGATE) {
                     turnTop(sign);
                 } else {
@@ -1065,7 +1076,7 @@ public final class StepsBeyond {
                 next();
                 return true;
             }
-            if (token >= APART) {
+            if (token >= FIRST_NAME) {
                 write(-token);
                 next();
                 return true;

@@ -7,6 +7,7 @@ public final class HostTest {
         cell();
         copy();
         copyWithin();
+        madeAnew();
         houses();
         housesLeftOut();
         housesFull();
@@ -95,6 +96,22 @@ public final class HostTest {
         Due.is("a house of it", x.houses(1, 2, 1, 1), 1);
         Due.is("its place", x.taken(0, 6), 77);
         Due.is("it is a hut", x.hut(0, 0), 1);
+    }
+
+    /** A row made anew is all 0, whatever stood there. */
+    private static void madeAnew() {
+        StepsBeyond x = new StepsBeyond();
+        x.sheet(0, 2, 4);
+        for (int i = 0; i < 4; i++) {
+            x.cell(0, i, 1);
+        }
+        x.sheet(0, 1, 2);
+        x.sheet(0, 2, 4);
+        Due.is("two houses", x.houses(0, 2, 0, 2), 2);
+        Due.is("at 0", x.taken(0, 6), 0);
+        Due.is("no hut", x.hut(0, 0), 0);
+        Due.is("at 0, too", x.taken(1, 6), 0);
+        Due.is("no hut, either", x.hut(1, 0), 0);
     }
 
     private static void copyWithin() {

@@ -140,6 +140,11 @@ public final class HousesTest {
         Due.is("another town", x.burn(7), 0);
         Due.is("burn(8)", x.burn(8), StepsBeyond.NONE);
         Due.is("burn(-1)", x.burn(-1), StepsBeyond.NONE);
+        StepsBeyond z = new StepsBeyond();
+        z.house(Due.place(6, 6), 0);
+        z.house(Due.place(1, 6), 0);
+        z.house(Due.place(11, 6), 0);
+        Due.is("house 0 joins the others", z.burn(2), 1);
         // taken as now: the house that would be missing still counts in houses
         StepsBeyond y = new StepsBeyond();
         y.house(0, 0);

@@ -25,6 +25,20 @@ public final class JoinedTest {
         Due.is("shed(0, 3)", x.shed(0, 3), StepsBeyond.NONE);
         Due.is("shed(-1, 0)", x.shed(-1, 0), StepsBeyond.NONE);
         Due.is("nothing came", x.count(0), 3);
+        shedAtTheEnds();
+    }
+
+    private static void shedAtTheEnds() {
+        StepsBeyond x = new StepsBeyond();
+        x.force(Due.text(x, "near side = 2 and huts = 1;far 0;"));
+        x.house(Due.place(2, 0), 0);
+        x.house(Due.place(0, 2), 0);
+        Due.is("the first place", x.shed(0, 1), 0);
+        x.force(Due.text(x, "near apart = 0 and huts = 1;far 0;"));
+        x.house(1599, 0);
+        x.house(1599, 0);
+        Due.is("the last place", x.shed(2, 3), 1599);
+        Due.is("no place", x.shed(0, 3), -6);
     }
 
     private static void shedByHuts() {

@@ -220,8 +220,15 @@ public final class ShapesTest {
         Due.is("both, the other way round", x.both(1, 0, 1), 121 - 22);
         Due.is("both of one", x.both(0, 0, 0), 169);
         Due.is("both of one, alone", x.both(0, 0, 1), 0);
-        Due.is("both(2, 0, 9)", x.both(2, 0, 9), StepsBeyond.NONE);
-        Due.is("both(0, 2, 0)", x.both(0, 2, 0), StepsBeyond.NONE);
+        x.house(0, 0);
+        x.house(1599, 0);
+        x.shape(SHAPE, 2, 0);
+        x.shape(SHAPE, 3, 0);
+        Due.is("the first place alone", x.both(2, 3, 1), 1);
+        Due.is("the last place alone", x.both(2, 3, 2), 1);
+        Due.is("the last place is in both", x.both(3, 3, 0), 1);
+        Due.is("both(4, 0, 9)", x.both(4, 0, 9), StepsBeyond.NONE);
+        Due.is("both(0, 4, 0)", x.both(0, 4, 0), StepsBeyond.NONE);
         Due.is("both(0, -1, 0)", x.both(0, -1, 0), StepsBeyond.NONE);
         Due.is("both(0, 1, 3)", x.both(0, 1, 3), StepsBeyond.BAD);
         Due.is("both(0, 1, -1)", x.both(0, 1, -1), StepsBeyond.BAD);
@@ -245,6 +252,8 @@ public final class ShapesTest {
         x.force(Due.text(x, "near 1;far 0-9;"));
         x.shape(LOAF, 0, 0);
         Due.is("laid with no reach", x.laid(2, 1234), 1234);
+        Due.is("laid at the first place", x.laid(2, 0), 0);
+        Due.is("laid at the last place", x.laid(2, 1599), 1599);
     }
 
     private static void asItIsNow() {

@@ -1,9 +1,12 @@
+import java.util.Random;
+
 /** Promises 18 to 27: ravine, steps, person, moves, personTold, well, may, wells, who, meet. */
 public final class StepsTest {
     public static void main(String[] args) {
         ravine();
         steps();
         aWindingWay();
+        manyWays();
         person();
         moves();
         personTold();
@@ -72,6 +75,27 @@ public final class StepsTest {
         Due.is("winding back", x.steps(Due.place(0, 39), 0), winding);
         Due.is("winding from left to right", y.steps(0, 39), winding);
         Due.is("winding back", y.steps(39, 0), winding);
+    }
+
+    private static void manyWays() {
+        Random random = new Random(5);
+        for (int run = 0; run < 150; run++) {
+            StepsBeyond x = new StepsBeyond();
+            PlainModel model = new PlainModel();
+            for (int i = 0; i < 6; i++) {
+                int way = random.nextInt(2);
+                int at = 1 + random.nextInt(39);
+                int from = random.nextInt(20);
+                int to = 20 + random.nextInt(20);
+                int wide = 1 + random.nextInt(99);
+                Due.is("ravine", x.ravine(way, at, from, to, wide), model.ravine(way, at, from, to, wide));
+            }
+            for (int i = 0; i < 20; i++) {
+                int p = random.nextInt(1600);
+                int q = random.nextInt(1600);
+                Due.is("run " + run + ": steps(" + p + ", " + q + ")", x.steps(p, q), model.steps(p, q));
+            }
+        }
     }
 
     private static void person() {
@@ -215,6 +239,7 @@ public final class StepsTest {
         Due.is("no such", x.meet(-1, 0, 0), -5);
         Due.is("what is ahead of STATE", x.meet(0, 3, 2), -7);
         Due.is("what -1", x.meet(0, 1, -1), -7);
+        meetAtTheFirstPlace();
         x.ravine(0, 15, 0, 39, 3);
         Due.is("over a ravine", x.meet(0, 1, 1), 13);
         x.ravine(1, 10, 14, 16, 1);
@@ -224,6 +249,16 @@ public final class StepsTest {
         x.moves(0, Due.place(15, 9));
         Due.is("where both are", x.meet(1, 0, 0), Due.place(15, 9));
         Due.is("in no steps", x.meet(1, 0, 1), 0);
+    }
+
+    private static void meetAtTheFirstPlace() {
+        StepsBeyond x = new StepsBeyond();
+        x.house(0, 0);
+        x.shape(0, 0, 1);
+        x.person(0, 0);
+        x.person(1, 0);
+        Due.is("at 0", x.meet(0, 1, 0), 0);
+        Due.is("in 1", x.meet(0, 1, 1), 1);
     }
 
     /** One at (20, 20), BOUND by a SHAPE of 3 about it. */

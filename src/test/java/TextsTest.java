@@ -4,6 +4,7 @@ public final class TextsTest {
         feed();
         sound();
         faults();
+        afterAnother();
         depth();
         values();
         full();
@@ -62,6 +63,10 @@ public final class TextsTest {
         faultAt(7, "near 1 12345;far 1;");
         faultAt(5, "near foo;far 1;");
         faultAt(5, "near apartx < 1;far 1;");
+        faultAt(5, "near apartz < 1;far 1;");
+        faultAt(5, "near aapart < 1;far 1;");
+        faultAt(5, "near qpart < 1;far 1;");
+        faultAt(5, "near a < 1;far 1;");
         faultAt(11, "near apart side;far 1;");
         faultAt(10, "near apart1;far 1;");
         faultAt(5, "near or;far 1;");
@@ -81,6 +86,10 @@ public final class TextsTest {
         faultAt(9, "near 1 or;far 1;");
         faultAt(11, "near 1 and or 1;far 1;");
         faultAt(8, "near not;far 1;");
+        faultAt(9, "near 1 < ;far 1;");
+        faultAt(9, "near 1 * ;far 1;");
+        faultAt(11, "near 1 and ;far 1;");
+        faultAt(7, "near - ;far 1;");
         faultAt(6, "near 1\t;far 1;");
         faultAt(6, "near 1\r\n;far 1;");
         faultAt(6, "near 1, ;far 1;");
@@ -99,6 +108,16 @@ public final class TextsTest {
         faultAt(7, "near 1;");
         faultAt(12, "near 1;far 1");
         faultAt(14, "near 1;far 1 \n");
+    }
+
+    /** What an earlier text left behind the tape's end does not count. */
+    private static void afterAnother() {
+        StepsBeyond x = new StepsBeyond();
+        Due.is("a longer text", Due.text(x, "near 123456;far 1;"), -105);
+        Due.is("ends behind a number", Due.text(x, "near 12"), -107);
+        Due.is("a longer word", Due.text(x, "near apartment"), -105);
+        Due.is("ends behind a word", Due.text(x, "near apart"), -110);
+        Due.is("ends behind blanks", Due.text(x, "     "), -105);
     }
 
     private static void depth() {
@@ -167,7 +186,19 @@ public final class TextsTest {
         farIs("4096 * 4096 * 128 - 1", 50);
         farIs("huts + apart + side", 0);
         farIs("loaf", 0);
-        farIs("0 or 1 and 5=1+2*(1+(0 or 1 and 1=0+1*(0 or 1 and 2=1+1*(0 or 1 and 1=0+1*(0 or 1 and 6=2*3)))))", 1);
+        deepest();
+    }
+
+    /** As many values wait at once as ever can; each depth passes on whether the next one is 1. */
+    private static void deepest() {
+        String ahead = "0 or 1 and 1=0+1*";
+        for (int inmost = 0; inmost < 3; inmost++) {
+            String far = "" + inmost;
+            for (int depth = 0; depth < 6; depth++) {
+                far = depth == 0 ? ahead + far : ahead + "(" + far + ")";
+            }
+            farIs(far, inmost == 1 ? 1 : 0);
+        }
     }
 
     private static void farIs(String far, int due) {
