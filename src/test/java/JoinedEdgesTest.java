@@ -4,6 +4,7 @@ public final class JoinedEdgesTest {
         shed();
         shedPlaces();
         shedByLaw();
+        shedOfHutsAndHouses();
         shedOfTowns();
         bridge();
         bridgeByNumbers();
@@ -59,6 +60,18 @@ public final class JoinedEdgesTest {
             house(1598, 0) = 2
             shed(0, 1) = 1599
             shed(1, 0) = 1599
+            shed(0, 2) = -6
+            """);
+        Script.run("A SHED: none behind the last PLACE: 40 to the SOUTH of y 0 is no PLACE", """
+            text "near side = 40 and apart = 1600;far 0;" = 1
+            force(1) = 0
+            house(0, 0) = 0
+            house(0, 0) = 1
+            house(39, 1) = 2
+            house(39, 1) = 3
+            town(0) = 1
+            shed(0, 1) = -6
+            shed(2, 3) = -6
             shed(0, 2) = -6
             """);
         Script.run("A SHED: of all PLACES between them the first one", """
@@ -120,6 +133,37 @@ public final class JoinedEdgesTest {
             hut(2, 1) = 0
             town(1) = 2
             shed(1, 2) = -6
+            """);
+    }
+
+    /** Huts and houses of the same towns, the same way off: the one is near a hut, the other is not. */
+    private static void shedOfHutsAndHouses() {
+        Script.run("A SHED by TEXT 0: NEAR the HOUSES of a TOWN that are no HUTS", """
+            house(10:10, 0) = 0
+            house(13:10, 1) = 1
+            house(21:10, 0) = 2
+            town(0) = 3
+            shed(0, 2) = 15:7             # the HUT is no help
+            shed(1, 2) = 15:7
+            hut(1, 0) = 1
+            shed(0, 2) = 17:5             # now it is
+            shed(2, 1) = 17:5
+            hut(1, 1) = 0
+            hut(0, 1) = 0
+            town(1) = 2
+            shed(0, 1) = -6
+            shed(1, 2) = -6
+            """);
+        Script.run("A SHED: by how far it is each way, not both together", """
+            text "near apart = 25;far 0;" = 1
+            force(1) = 0
+            house(20:20, 0) = 0
+            house(28:20, 1) = 1
+            shed(0, 1) = 24:17
+            house(26:20, 0) = 2
+            shed(0, 2) = 23:16
+            house(20:30, 1) = 3
+            shed(3, 0) = 20:25
             """);
     }
 

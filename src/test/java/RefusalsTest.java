@@ -145,7 +145,8 @@ public final class RefusalsTest {
         String run = "0 | -12 -1 5 MIN MAX";
         String n = "1 | -12 -1 5 MIN MAX";
         refuses("copy", "BAD -11 -13 -12", "", "0 | -11 3 | BAD -1 4", run, "0 | -13 1 2 | -11 3 | BAD -1 4", run, n);
-        refuses("copy", "BAD -11 -13 -12", "", "1 | -11 3 | BAD -1 4", "0 | -12 4", "1 | -13 0 2 | BAD MIN MAX", run, n);
+        refuses("copy", "BAD -11 -13 -12", "", "1 | -11 3 | BAD -1 4", "0 | -12 5", "1 | -13 0 2 | BAD MIN MAX", run,
+            n);
         refuses("houses", "BAD -11 -13 -12", "", SHEET, "0 | -13 1 2 | BAD -1 3 MIN MAX",
             "0 | -12 -1 3 4 MIN MAX", "1 2 | BAD -1 21 MIN MAX");
         refuses("taken", "BAD -12 -11 -13", "", "0 1 | -11 2 19 22 31 | -12 -1 32 MIN MAX",

@@ -77,7 +77,8 @@ final class Script {
             }
             if (call.isRefused() || k == calls.size() - 1) {
                 without = without == null ? lookBehind(done) : without;
-                Due.holds(title + " changes nothing: " + call.told, lookBehind(calls.subList(0, k + 1)).equals(without));
+                List<Integer> with = lookBehind(calls.subList(0, k + 1));
+                Due.holds(title + " changes nothing: " + call.told, with.equals(without));
             }
         }
     }
@@ -142,7 +143,8 @@ final class Script {
             for (int i = from; i < to; i++) {
                 w = w << 8 | text.charAt(i);
             }
-            calls.add(new Call("feed of " + text.substring(from, to), "feed", new Object[] {w, to - from}, before + to));
+            Object[] args = {w, to - from};
+            calls.add(new Call("feed of " + text.substring(from, to), "feed", args, before + to));
         }
         if (line.startsWith("text")) {
             int due = numberOf(line.substring(line.lastIndexOf('=') + 1).trim());
@@ -199,9 +201,9 @@ final class Script {
             case "FULL":
                 return -4;
             default:
-                int colon = told.indexOf(':');
-                return colon < 0 ? Integer.parseInt(told)
-                    : Due.place(Integer.parseInt(told.substring(0, colon)), Integer.parseInt(told.substring(colon + 1)));
+                String[] xy = told.split(":");
+                int first = Integer.parseInt(xy[0]);
+                return xy.length == 1 ? first : Due.place(first, Integer.parseInt(xy[1]));
         }
     }
 }

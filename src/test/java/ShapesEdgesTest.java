@@ -23,6 +23,7 @@ public final class ShapesEdgesTest {
         both();
         laid();
         laidAtTheEdges();
+        oneBehindAnother();
         asItIsNow();
         Due.end();
     }
@@ -456,6 +457,38 @@ public final class ShapesEdgesTest {
             laid(0, 1599) = 1599
             shape(5, 0, 30) = 1
             laid(1, 1599) = 10:10
+            """);
+    }
+
+    /** What was reckoned for one SHAPE does not count for the next one. */
+    private static void oneBehindAnother() {
+        Script.run("which PLACES are IN, asked of one KIND behind another", """
+            house(10:10, 0) = 0
+            house(14:12, 0) = 1
+            house(30:30, 0) = 2
+            shape(3, 0, 2) = 0
+            shape(1, 0, 0) = 1
+            shape(2, 0, 0) = 2
+            shape(0, 0, 0) = 3
+            shape(1, 2, 0) = 4
+            shape(3, 0, 1) = 5
+            size(0) = 19
+            size(1) = 2
+            size(0) = 19
+            within(1, 12:11) = 0
+            size(2) = 15
+            size(1) = 2
+            size(3) = 1
+            size(2) = 15
+            size(4) = 1
+            size(0) = 19
+            size(5) = 2
+            both(0, 1, 0) = 2
+            both(1, 0, 0) = 2
+            both(1, 0, 2) = 17
+            both(0, 1, 1) = 17
+            both(2, 1, 0) = 2
+            both(1, 2, 2) = 13
             """);
     }
 

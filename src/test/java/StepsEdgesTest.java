@@ -8,6 +8,7 @@ public final class StepsEdgesTest {
         oneByOne();
         steps();
         theMost();
+        windingWays();
         person();
         peopleFull();
         moves();
@@ -205,6 +206,37 @@ public final class StepsEdgesTest {
             person(0, 1) = 0
             may(0, 1599, 671) = 3
             may(0, 1599, 672) = 0
+            """);
+    }
+
+    /** Ways that turn as often as six RAVINES let them, each way, and a way that winds inwards and out again. */
+    private static void windingWays() {
+        for (int way = 0; way < 2; way++) {
+            String far = way == 1 ? "0:39" : "39:0";
+            Script.run("The fewest: to and fro between RAVINES", """
+                ravine(%1$d, 5, 0, 37, 99) = 1
+                ravine(%1$d, 10, 2, 39, 99) = 2
+                ravine(%1$d, 15, 0, 37, 99) = 3
+                ravine(%1$d, 20, 2, 39, 99) = 4
+                ravine(%1$d, 25, 0, 37, 99) = 5
+                ravine(%1$d, 30, 2, 39, 99) = 6
+                steps(0:0, %2$s) = 263
+                steps(%2$s, 0:0) = 263
+                steps(39:39, 0:0) = 300
+                steps(0:0, 39:39) = 300
+                """.formatted(way, far));
+        }
+        Script.run("The fewest: out of a winding yard", """
+            ravine(0, 18, 18, 22, 99) = 1
+            ravine(1, 18, 18, 24, 99) = 2
+            ravine(0, 25, 18, 26, 99) = 3
+            ravine(1, 27, 14, 24, 99) = 4
+            ravine(0, 14, 14, 26, 99) = 5
+            ravine(1, 23, 18, 22, 99) = 6
+            steps(20:20, 13:20) = 33      # 23:23, 17:23, 17:13, 13:13
+            steps(13:20, 20:20) = 33
+            steps(20:20, 20:23) = 9
+            steps(20:23, 20:20) = 9
             """);
     }
 

@@ -30,6 +30,7 @@ public final class TextsEdgesTest {
         truth();
         wrapping();
         order();
+        asManyWaitAsCan();
         fullTapes();
         text();
         textsFull();
@@ -170,6 +171,10 @@ public final class TextsEdgesTest {
             ends(" " + word.substring(1), 1);
             ends(" " + word.substring(0, word.length() - 1), 1);
             ends("near " + word.toUpperCase(), 5);
+            for (int i = 0; i < word.length(); i++) {
+                char other = word.charAt(i) == 'x' ? 'y' : 'x';
+                ends("near " + word.substring(0, i) + other + word.substring(i + 1), 5);
+            }
             ends("near " + word.substring(0, word.length() - 1), 5);
             ends("near " + word + "a", 5);
             ends("near " + word + "z", 5);
@@ -416,6 +421,17 @@ public final class TextsEdgesTest {
         farIs("1 + (1 < 3)", 2);
         farIs("4 < 1 + 4", 1);
         farIs("3 = 1 + 2 and 2 * 2 = 4", 1);
+    }
+
+    /** One value waits for each of or, and, =, +, * inside each of five ( : no text can make more of them wait. */
+    private static void asManyWaitAsCan() {
+        for (int inmost = 0; inmost < 3; inmost++) {
+            String far = "0 or 1 and 1=0+1*" + inmost;
+            for (int open = 1; open <= 5; open++) {
+                far = "0 or 1 and 1=0+1*(" + far + ")";
+            }
+            farIs(far, inmost == 1 ? 1 : 0);
+        }
     }
 
     private static void fullTapes() {
