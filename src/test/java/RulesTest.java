@@ -1,20 +1,18 @@
-import java.io.IOException;
 import java.lang.management.ManagementFactory;
+import java.lang.reflect.Array;
 import java.lang.reflect.Constructor;
 import java.lang.reflect.Field;
 import java.lang.reflect.Method;
 import java.lang.reflect.Modifier;
-import java.nio.file.Files;
-import java.nio.file.Path;
 import java.util.ArrayList;
+import java.util.Collections;
 import java.util.HashSet;
+import java.util.IdentityHashMap;
 import java.util.List;
 import java.util.Set;
 import java.util.TreeSet;
-import java.util.regex.Matcher;
-import java.util.regex.Pattern;
 
-/** The face that the document tells, the rules of LANGUAGE.md that can be seen from outside, and the room. */
+/** The face that the document tells, and the room that objects and calls take. */
 public final class RulesTest {
     private static final String[] FACE = {
         "house(int, int)", "hut(int, int)", "near(int, int)", "far(int)", "town(int)", "burn(int)", "feed(long, int)",
@@ -25,12 +23,19 @@ public final class RulesTest {
         "count(int)", "image()", "back()", "sheet(int, int, int)", "cell(int, int, int)",
         "copy(int, int, int, int, int)", "houses(int, int, int, int)", "taken(int, int)"};
 
-    public static void main(String[] args) throws IOException {
+    private static final String[] CONSTANTS = {
+        "public static final int NONE", "public static final int BAD", "public static final int STATE",
+        "public static final int FULL", "public static final long NO"};
+
+    /** So many objects and arrays, and fields and elements, are there for all calls of one run. */
+    private static final int ROOM_OF_OBJECTS = 600000, ROOM_OF_ELEMENTS = 7300000;
+
+    public static void main(String[] args) throws IllegalAccessException {
         constants();
         face();
-        classesInside();
-        source(Files.readString(Path.of("src/main/java/StepsBeyond.java")));
-        room();
+        names();
+        roomOfCalls();
+        roomOfAnObject();
         Due.end();
     }
 
@@ -56,10 +61,10 @@ public final class RulesTest {
         Set<String> fields = new TreeSet<>();
         for (Field f : c.getDeclaredFields()) {
             if (!Modifier.isPrivate(f.getModifiers())) {
-                fields.add(f.getName());
+                fields.add(Modifier.toString(f.getModifiers()) + " " + f.getType() + " " + f.getName());
             }
         }
-        Due.holds("the constants", fields.equals(Set.of("NONE", "BAD", "STATE", "FULL", "NO")));
+        Due.holds("the constants", fields.equals(new TreeSet<>(List.of(CONSTANTS))));
         Constructor<?>[] constructors = c.getDeclaredConstructors();
         Due.is("one constructor", constructors.length, 1);
         Due.holds("public", Modifier.isPublic(constructors[0].getModifiers()));
@@ -73,72 +78,24 @@ public final class RulesTest {
         return m.getName() + "(" + String.join(", ", types) + ")";
     }
 
-    private static void classesInside() {
+    /** Rule 1: no private method bears the name of a public one. */
+    private static void names() {
         Set<String> names = new HashSet<>();
         for (String call : FACE) {
             names.add(call.substring(0, call.indexOf('(')));
         }
         List<Class<?>> classes = new ArrayList<>(List.of(StepsBeyond.class.getDeclaredClasses()));
-        Due.holds("at most twelve classes", classes.size() + 1 <= 12);
         classes.add(StepsBeyond.class);
         for (Class<?> c : classes) {
-            Due.holds(c + " is static", c == StepsBeyond.class || Modifier.isStatic(c.getModifiers()));
-            int fields = 0;
-            for (Field f : c.getDeclaredFields()) {
-                boolean isStatic = Modifier.isStatic(f.getModifiers());
-                Due.holds(f + " is final", !isStatic || Modifier.isFinal(f.getModifiers()));
-                fields += isStatic ? 0 : 1;
-            }
-            Due.holds(c + " has at most twenty fields", fields <= 20);
             for (Method m : c.getDeclaredMethods()) {
-                boolean called = names.contains(m.getName());
-                Due.holds(m + " is named as a public one", !called || Modifier.isPublic(m.getModifiers()));
-                Due.holds(m + " has at most seven parameters", m.getParameterCount() <= 7);
-            }
-        }
-    }
-
-    private static void source(String source) {
-        String code = source.replaceAll("(?s)/\\*.*?\\*/", " ").replaceAll("//[^\n]*", " ")
-            .replaceAll("\"[^\"\n]*\"", "\"\"").replaceAll("'[^'\n]+'", "' '");
-        String[] words = {
-            "throw", "throws", "try", "catch", "finally", "synchronized", "assert", "package", "instanceof", "double",
-            "float", "Exception", "Error", "Thread", "Random", "hashCode", "toString", "equals", "var", "goto",
-            "volatile", "transient", "native", "protected"};
-        for (String word : words) {
-            Due.holds("no " + word, !Pattern.compile("\\b" + word + "\\b").matcher(code).find());
-        }
-        Due.holds("no lambda, no method reference", !code.contains("->") && !code.contains("::"));
-        Due.holds("no Exact", !code.contains("Exact"));
-        Matcher imports = Pattern.compile("import ([^;]*);").matcher(code);
-        while (imports.find()) {
-            Due.holds(imports.group(1), imports.group(1).equals("java.util.Arrays"));
-        }
-        Matcher library = Pattern.compile("\\b(Arrays|System|Math)\\.(\\w+)").matcher(code);
-        Set<String> allowed = Set.of("fill", "copyOf", "copyOfRange", "arraycopy", "abs", "max", "min");
-        while (library.find()) {
-            Due.holds(library.group(), allowed.contains(library.group(2)));
-        }
-        Due.holds("ASCII alone", source.chars().allMatch(c -> c < 128));
-        methodsAreShort(code);
-    }
-
-    private static void methodsAreShort(String code) {
-        int since = 0;
-        String[] lines = code.split("\n");
-        for (int i = 0; i < lines.length; i++) {
-            if (lines[i].matches(" {4}(?: {4})?[\\w\\[\\] ]+\\(.*\\) \\{") && !lines[i].matches(".*\\b(if|for|while)\\b.*")) {
-                since = i;
-            }
-            if (lines[i].matches(" {4}(?: {4})?\\}") && since > 0) {
-                Due.holds("short: " + lines[since].trim(), i - since <= 60);
-                since = 0;
+                boolean isNamedSo = names.contains(m.getName());
+                Due.holds(m + " is named as a public one", !isNamedSo || Modifier.isPublic(m.getModifiers()));
             }
         }
     }
 
     /** Calls make no objects, but for the two rows of a text. */
-    private static void room() {
+    private static void roomOfCalls() {
         StepsBeyond x = new StepsBeyond();
         com.sun.management.ThreadMXBean bean = (com.sun.management.ThreadMXBean) ManagementFactory.getThreadMXBean();
         long id = Thread.currentThread().getId();
@@ -149,6 +106,40 @@ public final class RulesTest {
         }
         long took = bean.getThreadAllocatedBytes(id) - before;
         Due.holds("ten times every call take " + took + " bytes of room", took < 20000);
+    }
+
+    /** Even a run in which every call makes a new object has room. */
+    private static void roomOfAnObject() throws IllegalAccessException {
+        StepsBeyond x = new StepsBeyond();
+        for (int i = 0; i < 5; i++) {
+            everyCall(x);
+        }
+        Set<Object> seen = Collections.newSetFromMap(new IdentityHashMap<>());
+        long elements = elementsOf(x, seen);
+        Due.holds("an object has " + seen.size() + " objects and arrays", seen.size() <= ROOM_OF_OBJECTS / 512);
+        Due.holds("and " + elements + " fields and elements", elements <= ROOM_OF_ELEMENTS / 512);
+    }
+
+    private static long elementsOf(Object part, Set<Object> seen) throws IllegalAccessException {
+        if (part == null || !seen.add(part)) {
+            return 0;
+        }
+        Class<?> c = part.getClass();
+        if (c.isArray()) {
+            long elements = Array.getLength(part);
+            for (int i = 0; i < Array.getLength(part) && !c.getComponentType().isPrimitive(); i++) {
+                elements += elementsOf(Array.get(part, i), seen);
+            }
+            return elements;
+        }
+        long elements = 0;
+        for (Field f : c.getDeclaredFields()) {
+            if (!Modifier.isStatic(f.getModifiers())) {
+                f.setAccessible(true);
+                elements += 1 + (f.getType().isPrimitive() ? 0 : elementsOf(f.get(part), seen));
+            }
+        }
+        return elements;
     }
 
     private static void everyCall(StepsBeyond x) {
